@@ -182,6 +182,11 @@ public final class HoursTest {
     }
 
     private static void foreseeTorn() {
+        KnotRugs first = new KnotRugs();
+        first.plan(0, 0, 12, 1, 2);
+        first.tell(0, 2, 3);
+        first.pass(2);
+        Check.same("foresee(1, 1), the first look ahead", first.foresee(1, 1), 0);
         KnotRugs r = new KnotRugs();
         r.tell(0, 1, 60);
         r.tell(1, 1, 6);
@@ -192,7 +197,10 @@ public final class HoursTest {
             Check.same("foresee(" + hours[i] + ", 2)", r.foresee(hours[i], 2), torn[i]);
         }
         Check.same("count(4)", r.count(4), 0);
-        r.pass(18);
+        r.pass(17);
+        Check.same("foresee(1, 2) with the knots so far", r.foresee(1, 2), 2);
+        Check.same("foresee(1, 1) with the knots so far", r.foresee(1, 1), 36);
+        r.pass(1);
         Check.same("count(4)", r.count(4), 2);
         Check.same("foresee(1, 2)", r.foresee(1, 2), 2);
     }
@@ -219,6 +227,10 @@ public final class HoursTest {
         KnotRugs r = new KnotRugs();
         r.plan(0, 0, 12, 10, 1);
         Check.sameDouble("share() without knots", r.share(), 0.0);
+        r.tell(0, 1, 1);
+        r.pass(1);
+        Check.sameDouble("share() with one knot", r.share(), 1.0);
+        r.unpick(0, 1);
         r.tell(0, 1, 2);
         r.tell(1, 2, 1);
         r.pass(1);

@@ -7,6 +7,7 @@ public final class ThereTest {
         runsLeft();
         counts();
         torn();
+        tornAtTheRim();
         wrong();
         Check.end();
     }
@@ -155,6 +156,16 @@ public final class ThereTest {
         r.unpick(1, 1);
         Check.same("count(4), unpicked at the seam", r.count(4), 1);
         Check.same("count(3), unpicked at the seam", r.count(3), 5);
+    }
+
+    private static void tornAtTheRim() {
+        KnotRugs r = new KnotRugs();
+        r.tell(0, 1, 6);
+        r.tell(1, 2, 6);
+        r.pass(6);
+        Check.same("count(4), the row 0", r.count(4), 1);
+        r.plan(5, 0, 1, 1, 7);
+        Check.same("count(4), the row 0 by another plan", r.count(4), 0);
     }
 
     private static void wrong() {
