@@ -3,7 +3,8 @@ import java.util.List;
 
 /** Long runs of calls, right and wrong ones, each answered by the program and by the model. */
 public final class ModelTest {
-    private static final int RUNS = 400;
+    private static final int RUNS = 800;
+    /** The document says nothing of what an object answers behind so many calls. */
     private static final int CALLS = 512;
     private static final String INDEX = "IndexOutOfBoundsException";
     private static final String ARGUMENT = "IllegalArgumentException";
@@ -14,15 +15,18 @@ public final class ModelTest {
     private final KnotRugs rugs = new KnotRugs();
     private final Model model = new Model();
     private final List<String> calls = new ArrayList<>();
+    /** Each call is followed by digest(), which takes half of the calls, or the last one alone. */
+    private final boolean closely;
     private long seed;
 
-    private ModelTest(long seed) {
+    private ModelTest(long seed, boolean closely) {
         this.seed = seed;
+        this.closely = closely;
     }
 
     public static void main(String[] args) {
         for (int run = 1; run <= RUNS; run++) {
-            if (!new ModelTest(run * 7919L).allAlike()) {
+            if (!new ModelTest(run * 7919L, run % 2 == 0).allAlike()) {
                 System.exit(1);
             }
         }
@@ -44,16 +48,18 @@ public final class ModelTest {
     }
 
     private boolean allAlike() {
-        for (int i = 0; i < CALLS; i++) {
+        int drawn = closely ? CALLS / 2 : CALLS - 1;
+        for (int i = 1; i <= drawn; i++) {
             int which = draw(0, 2) == 0 ? draw(0, 19) : BUSY[draw(0, BUSY.length - 1)];
             int[] a = arguments(which);
             String due = due(which, a);
             String got = got(which, a);
             calls.add(name(which, a));
-            if (!due.equals(got) || rugs.digest() != model.digest()) {
+            boolean states = closely || i == drawn;
+            if (!due.equals(got) || states && rugs.digest() != model.digest()) {
                 System.out.println(String.join("\n", calls));
-                System.out.println("answered " + got + ", due is " + due + "; digest() answers "
-                        + rugs.digest() + ", due is " + model.digest());
+                System.out.println("answered " + got + ", due is " + due
+                        + ", or the digests are not alike");
                 return false;
             }
         }
