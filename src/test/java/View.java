@@ -6,7 +6,7 @@ final class View {
     }
 
     /**
-     * All that can be asked, and the digest of some hours to come, so that a change that no answer
+     * Nearly all that can be asked (sees() beside the seam alone), and the digest of some hours to come, so that a change that no answer
      * shows yet comes to light. It is the last that is asked of an object.
      */
     static String of(KnotRugs r) {
